@@ -184,6 +184,10 @@ public final class FolioTest {
         run.folioGood(HEAD + "opens ((((((1))))))+((((((1))))));", 2);
         run.folioGood(HEAD + "opens (((((min(1,2))))));", 2);
         run.folioFault(HEAD + "opens ((((((min(1,2)))))));", 4, 31);
+        run.folioGood(HEAD + "opens min((((((1))))),2);", 2);
+        run.folioGood(HEAD + "opens min(1,(((((2))))));", 2);
+        run.folioFault(HEAD + "opens min(1,((((((2)))))));", 4, 33);
+        run.folioFault(HEAD + "opens max((((((( 2", 4, 31);
         run.folioGood(HEAD + "steps not not not not not not all;", 2);
         run.folioFault(HEAD + "steps not not not not not not not all;", 4, 46);
         run.folioGood(HEAD + "steps not not not not not not all and not not not not not not all;", 2);

@@ -6,6 +6,7 @@ public final class ImageTest {
 
     public static void main(String[] args) {
         image();
+        longest();
         on();
         notOn();
         status();
@@ -35,6 +36,26 @@ public final class ImageTest {
         run.folioGood("folio 6 cells 8;being a on 5 at 7 trade 0;", 2);
         run.due("octet(0) of the latest image()", run.folk.octet(0), 1);
         run.due("image()", run.folk.image(), 2 + 6 + 6 + 1);
+    }
+
+    private static void longest() {
+        StringBuilder text = new StringBuilder("folio 6 cells 8;gloss 5 6;");
+        for (int k = 0; k < 7; k++) {
+            text.append("being ").append((char) ('a' + k)).append(" on 5 at ").append(k < 6 ? k : 7).append(" trade 0;");
+        }
+        text.append("being h on 4 at 7 trade 0;");
+        Check run = Check.of("29, 30 the longest image", text.toString());
+        int[] image = run.image();
+        run.due("image()", image.length, 57);
+        run.due("octet(7): the GLOSS on LEAF 5", image[7], 64);
+        run.due("octet(50): LEAF of the last one", image[50], 4);
+        run.due("octet(51): its CELL", image[51], 7);
+        run.due("octet(56): the last byte", image[56], Check.sealed(Arrays.copyOf(image, 56))[56]);
+        run.due("octet(57)", run.folk.octet(57), -1);
+        run.folk.days(3);
+        run.tape(image);
+        run.due("on()", run.folk.on(), true);
+        run.due("like at first", Arrays.equals(run.image(), image), true);
     }
 
     private static void on() {

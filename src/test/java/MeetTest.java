@@ -73,6 +73,7 @@ public final class MeetTest {
         Check without = new Check("14 no folio");
         without.due("reading(1, -1)", without.folk.reading(1, -1), -1);
         readingWithSteps();
+        readingByTheLast();
         readingByLastDays();
     }
 
@@ -90,6 +91,18 @@ public final class MeetTest {
         run.due("being(1, 1)", run.folk.being(1, 1), 2);
         run.due("pairs(2) now", run.folk.pairs(2), 1);
         run.due("reading(1, 0)", run.folk.reading(1, 0), 0);
+    }
+
+    /** On DAY 0 none MEET; p steps so that it meets q; only OPENING 4 keeps the LEAVES 2 and 3 apart on DAY 1. */
+    private static void readingByTheLast() {
+        Check run = Check.of("14 reading by the last OPENING", "folio 4 cells 8;being p on 0 at 0 trade 1;being q on 1 at 6 trade 0;"
+                + "being ra on 2 at 0 trade 0;being sa on 3 at 6 trade 2;being rb on 2 at 2 trade 3;being sb on 3 at 4 trade 0;"
+                + "steps trade=1 or trade=2 and open=0 or trade=3 and open=1;opens 4;");
+        run.due("reading(1, -1)", run.folk.reading(1, -1), 0);
+        run.due("reading(1, 0)", run.folk.reading(1, 0), 0);
+        run.due("reading(2, -1)", run.folk.reading(2, -1), 0);
+        run.due("reading(2, 0)", run.folk.reading(2, 0), 4);
+        run.due("reading(2, 1)", run.folk.reading(2, 1), 0);
     }
 
     private static void readingByLastDays() {
