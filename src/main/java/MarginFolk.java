@@ -978,16 +978,24 @@ public final class MarginFolk {
                 script.add(Script.NUMBER + Math.max(0, number));
                 return;
             }
-            if (tokens.isSign('(')) {
-                readInner(open, false);
-                return;
-            }
             int word = tokens.kind == Tokens.WORD ? words.find(tokens.value) : NONE;
-            if (word == Words.MIN || word == Words.MAX) {
+            boolean two = word == Words.MIN || word == Words.MAX;
+            if (two) {
                 tokens.step();
-                readInner(open, true);
-                script.add(word == Words.MIN ? Script.LESSER : Script.GREATER);
-            } else if (word < 0 || word > Words.MEETS || (scope >> word & 1) == 0) {
+            }
+            if (tokens.isSign('(')) {
+                if (!tokens.mayOpen(open)) {
+                    return;
+                }
+                tokens.step();
+                readSum(open + 1);
+                if (two) {
+                    tokens.passSign(',');
+                    readSum(open + 1);
+                    script.add(word == Words.MIN ? Script.LESSER : Script.GREATER);
+                }
+                tokens.passSign(')');
+            } else if (two || word < 0 || word > Words.MEETS || (scope >> word & 1) == 0) {
                 tokens.fail(1, tokens.at);
             } else if (word != Words.MEETS) {
                 script.add(Script.PART + word);
@@ -997,23 +1005,6 @@ public final class MarginFolk {
                 readPart(open + 1);
                 script.add(Script.MEETS);
             }
-        }
-
-        /** What stands in ( ): one SUM, or two. */
-        private void readInner(int open, boolean two) {
-            if (!tokens.isSign('(')) {
-                tokens.fail(1, tokens.at);
-            }
-            if (!tokens.mayOpen(open)) {
-                return;
-            }
-            tokens.step();
-            readSum(open + 1);
-            if (two) {
-                tokens.passSign(',');
-                readSum(open + 1);
-            }
-            tokens.passSign(')');
         }
 
         private int compareSign() {
@@ -1667,7 +1658,7 @@ public final class MarginFolk {
             if (depth < 0 || depth >= MOST_READING) {
                 return;
             }
-            for (int opening = 0; opening <= folio.leaves; opening++) {
+            for (int opening = 0; opening <= folio.leaves && bestMet > 0; opening++) {
                 int all = met + Book.countPairs(folio, state, opening);
                 // a row that only equals the best one so far is not the first of like ones
                 if (all < bestMet) {
