@@ -540,6 +540,7 @@ public final class MarginFolk {
     /** The words of the language, each packed into one number so that two are compared at once. */
     private static final class Words {
         static final int LONGEST = 6;
+        static final int BASE = 27;
         static final int DAY = 0;
         static final int LEAF = 1;
         static final int CELL = 2;
@@ -599,21 +600,17 @@ public final class MarginFolk {
         private static int packListed(int from, int to) {
             int all = 0;
             for (int k = from; k < from + LONGEST; k++) {
-                all = addLetter(all, k < to && k < LIST.length() ? LIST.charAt(k) : 0);
+                all = all * BASE + (k < to && k < LIST.length() ? LIST.charAt(k) - 'a' + 1 : 0);
             }
             return all;
-        }
-
-        static int addLetter(int all, int letter) {
-            return all * 27 + (letter == 0 ? 0 : letter - 'a' + 1);
         }
 
         static int letterOf(int all, int k) {
             int rest = all;
             for (int behind = k + 1; behind < LONGEST; behind++) {
-                rest /= 27;
+                rest /= BASE;
             }
-            return rest % 27;
+            return rest % BASE;
         }
 
         boolean isThat(int word, int all) {
@@ -637,6 +634,7 @@ public final class MarginFolk {
         static final int NUMBER = 2;
         static final int SIGN = 3;
         static final int STRAY = 4;
+        static final int MOST_DIGITS = 4;
 
         final Tape tape;
         final Words words;
@@ -645,6 +643,7 @@ public final class MarginFolk {
         int length;
         int value;
         int next;
+        int numberAt;
         int fault;
         int place;
 
@@ -662,64 +661,53 @@ public final class MarginFolk {
         }
 
         void step() {
+            boolean joined = kind == WORD || kind == NUMBER;
             int from = next;
-            boolean close = kind == WORD || kind == NUMBER;
             int size = Math.min(tape.length, tape.bytes.length);
-            at = from;
-            while (at >= 0 && at < size && (tape.bytes[at] == ' ' || tape.bytes[at] == '\n')) {
+            at = Math.max(0, from);
+            while (at < size && (tape.bytes[at] == ' ' || tape.bytes[at] == '\n')) {
                 at++;
             }
-            if (at < 0 || at >= size) {
+            length = 0;
+            value = 0;
+            if (at >= size) {
                 kind = END;
                 at = size;
                 next = size;
                 return;
             }
             int sign = tape.bytes[at] & 255;
-            if (isLetter(sign)) {
-                takeWord(size);
-            } else if (isDigit(sign)) {
-                takeNumber(size);
-            } else {
-                kind = SIGN;
-                length = 1;
+            kind = sign >= 'a' && sign <= 'z' ? WORD : sign >= '0' && sign <= '9' ? NUMBER : SIGN;
+            if (kind == SIGN) {
                 value = sign;
+                length = 1;
+            } else {
+                takeWhole(size);
             }
             next = at + length;
-            if (close && at == from && kind != SIGN) {
+            if (joined && at == from && kind != SIGN) {
                 kind = STRAY;
             }
         }
 
-        private void takeWord(int size) {
-            kind = WORD;
-            length = 0;
-            value = 0;
-            for (int k = at; k >= 0 && k < size && isLetter(tape.bytes[k]); k++) {
+        /** All letters of a word or digits of a number; of one too long the value counts no more. */
+        private void takeWhole(int size) {
+            boolean word = kind == WORD;
+            int low = word ? 'a' : '0';
+            int high = word ? 'z' : '9';
+            int most = word ? Words.LONGEST : MOST_DIGITS;
+            for (int k = at; k >= 0 && k < size && tape.bytes[k] >= low && tape.bytes[k] <= high; k++) {
                 length++;
-                value = length > Words.LONGEST ? NONE : Words.addLetter(value, tape.bytes[k]);
+                if (length <= most) {
+                    value = word ? value * Words.BASE + tape.bytes[k] - low + 1 : value * 10 + tape.bytes[k] - low;
+                }
             }
-            for (int k = length; k < Words.LONGEST; k++) {
-                value = Words.addLetter(value, 0);
+            for (int k = length; word && k < most; k++) {
+                value *= Words.BASE;
             }
-        }
-
-        private void takeNumber(int size) {
-            kind = NUMBER;
-            length = 0;
-            value = 0;
-            for (int k = at; k >= 0 && k < size && isDigit(tape.bytes[k]); k++) {
-                length++;
-                value = length > 4 ? value : value * 10 + tape.bytes[k] - '0';
+            if (length > most) {
+                value = NONE;
             }
-        }
-
-        private static boolean isLetter(int sign) {
-            return sign >= 'a' && sign <= 'z';
-        }
-
-        private static boolean isDigit(int sign) {
-            return sign >= '0' && sign <= '9';
         }
 
         boolean isWord(int word) {
@@ -755,13 +743,16 @@ public final class MarginFolk {
             }
         }
 
-        /** The number that stands here, if it can stand in a text at all; else NONE, a FAULT. */
-        int passNumber() {
-            if (fault != 0) {
-                return NONE;
+        /** The number that stands here, if it is one of low to high; else NONE, a FAULT. */
+        int passNumber(int low, int high) {
+            numberAt = at;
+            if (fault == 0 && (kind != NUMBER || length > MOST_DIGITS)) {
+                fail(1, kind == NUMBER ? at + MOST_DIGITS : at);
             }
-            if (kind != NUMBER || length > 4) {
-                fail(1, kind == NUMBER ? at + 4 : at);
+            if (fault == 0 && (value < low || value > high)) {
+                fail(2, at);
+            }
+            if (fault != 0) {
                 return NONE;
             }
             int number = value;
@@ -892,7 +883,7 @@ public final class MarginFolk {
             return kind;
         }
 
-        void readTest(int open) {
+        private void readTest(int open) {
             boolean andWaits = false;
             boolean orWaits = false;
             for (int k = 0; k <= MOST_BYTES; k++) {
@@ -947,7 +938,7 @@ public final class MarginFolk {
             }
         }
 
-        void readSum(int open) {
+        private void readSum(int open) {
             int sumWaits = NONE;
             int productWaits = NONE;
             for (int k = 0; k <= MOST_BYTES && tokens.fault == 0; k++) {
@@ -974,7 +965,7 @@ public final class MarginFolk {
 
         private void readPart(int open) {
             if (tokens.kind == Tokens.NUMBER) {
-                int number = tokens.passNumber();
+                int number = tokens.passNumber(0, 9999);
                 script.add(Script.NUMBER + Math.max(0, number));
                 return;
             }
@@ -1040,7 +1031,6 @@ public final class MarginFolk {
         private final Words words;
         private final SumReader sums;
         private Folio folio;
-        private int numberAt;
 
         FolioReader(Tokens tokens, Words words, SumReader sums, Folio folio) {
             this.tokens = tokens;
@@ -1112,7 +1102,7 @@ public final class MarginFolk {
                     break;
                 case Words.THUMB:
                     tokens.step();
-                    folio.thumb = readNumber(0, 100);
+                    folio.thumb = tokens.passNumber(0, 100);
                     break;
                 default:
                     tokens.fail(1, tokens.at);
@@ -1137,20 +1127,11 @@ public final class MarginFolk {
             return true;
         }
 
-        private int readNumber(int low, int high) {
-            numberAt = tokens.at;
-            int number = tokens.passNumber();
-            if (tokens.fault == 0 && (number < low || number > high)) {
-                tokens.fail(2, numberAt);
-            }
-            return tokens.fault == 0 ? number : NONE;
-        }
-
         private void readSize() {
             tokens.step();
-            int leaves = readNumber(1, MOST_LEAVES);
+            int leaves = tokens.passNumber(1, MOST_LEAVES);
             tokens.passWord(Words.CELLS);
-            int cells = readNumber(2, MOST_CELLS);
+            int cells = tokens.passNumber(2, MOST_CELLS);
             if (tokens.fault == 0) {
                 folio.leaves = leaves;
                 folio.cells = cells;
@@ -1161,7 +1142,7 @@ public final class MarginFolk {
             if (!mayBegin(folio.glosses, MOST_GLOSSES)) {
                 return;
             }
-            int leaf = readNumber(0, folio.leaves - 1);
+            int leaf = tokens.passNumber(0, folio.leaves - 1);
             int cell = readFreeCell(leaf);
             if (tokens.fault == 0) {
                 folio.first.writeGloss(leaf, cell);
@@ -1170,9 +1151,9 @@ public final class MarginFolk {
         }
 
         private int readFreeCell(int leaf) {
-            int cell = readNumber(0, folio.cells - 1);
+            int cell = tokens.passNumber(0, folio.cells - 1);
             if (tokens.fault == 0 && !folio.first.isFree(leaf, cell, folio.beings)) {
-                tokens.fail(2, numberAt);
+                tokens.fail(2, tokens.numberAt);
             }
             return cell;
         }
@@ -1181,12 +1162,12 @@ public final class MarginFolk {
             if (!mayBegin(folio.worms, MOST_WORMS)) {
                 return;
             }
-            int one = readNumber(0, folio.leaves - 1);
-            int other = readNumber(0, folio.leaves - 1);
+            int one = tokens.passNumber(0, folio.leaves - 1);
+            int other = tokens.passNumber(0, folio.leaves - 1);
             if (other == one) {
-                tokens.fail(2, numberAt);
+                tokens.fail(2, tokens.numberAt);
             }
-            int cell = readNumber(0, folio.cells - 1);
+            int cell = tokens.passNumber(0, folio.cells - 1);
             if (tokens.fault == 0) {
                 folio.addWorm(one, other, cell);
             }
@@ -1198,11 +1179,11 @@ public final class MarginFolk {
             }
             int name = readName();
             tokens.passWord(Words.ON);
-            int leaf = readNumber(0, folio.leaves - 1);
+            int leaf = tokens.passNumber(0, folio.leaves - 1);
             tokens.passWord(Words.AT);
             int cell = readFreeCell(leaf);
             tokens.passWord(Words.TRADE);
-            int trade = readNumber(0, 9);
+            int trade = tokens.passNumber(0, 9);
             if (tokens.fault == 0) {
                 folio.addBeing(name, leaf, cell, trade);
             }
@@ -1253,8 +1234,9 @@ public final class MarginFolk {
                     push(step - Script.PART < parts.length ? parts[step - Script.PART] : 0);
                 } else if (step == Script.NOT || step == Script.MEETS) {
                     changeTop(step);
-                } else {
-                    joinTwo(step);
+                } else if (top >= 2 && top <= stack.length) {
+                    top--;
+                    stack[top - 1] = join(step, stack[top - 1], stack[top]);
                 }
             }
             return top > 0 ? stack[top - 1] : 0;
@@ -1275,16 +1257,6 @@ public final class MarginFolk {
             boolean holds = step == Script.NOT ? value == 0
                     : value >= 0 && value < meetsWhom.length && meetsWhom[value];
             stack[top - 1] = holds ? 1 : 0;
-        }
-
-        private void joinTwo(int step) {
-            if (top < 2 || top > stack.length) {
-                return;
-            }
-            top--;
-            int left = stack[top - 1];
-            int right = stack[top];
-            stack[top - 1] = join(step, left, right);
         }
 
         private static int join(int step, int left, int right) {
