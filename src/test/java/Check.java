@@ -1,4 +1,7 @@
 import java.nio.charset.StandardCharsets;
+import java.util.ArrayList;
+import java.util.List;
+import java.util.function.LongSupplier;
 
 /** One run of calls on a new object: texts go onto its tape, answers are compared with what is due. */
 final class Check {
@@ -17,6 +20,16 @@ final class Check {
         Check run = new Check(title);
         run.tape(text);
         run.due("folio() of " + text, run.folk.folio(), text.chars().filter(c -> c == ';').count());
+        return run;
+    }
+
+    /** A run with something of all that could change: DAYS, a purse, KEPT, SEEN, a GLOSS, ACTS. */
+    static Check standing(String title) {
+        Check run = of(title, "folio 2 cells 3;gloss 1 0;being a on 0 at 0 trade 1;being b on 1 at 2 trade 2;opens 2;steps day=1;");
+        run.due("days(2)", run.folk.days(2), 2);
+        run.due("gloss(0, 0)", run.folk.gloss(0, 0), 100);
+        run.tape(0, 2);
+        run.due("see()", run.folk.see(), 1);
         return run;
     }
 
@@ -68,6 +81,13 @@ final class Check {
         due("fault(1) of " + text, folk.fault(1), place);
     }
 
+    /** The same of what stands on the tape. */
+    void folioFaultOfTape(int fault, int place) {
+        due("folio()", folk.folio(), MarginFolk.NONE);
+        due("fault(0)", folk.fault(0), fault);
+        due("fault(1)", folk.fault(1), place);
+    }
+
     void folioGood(String text, int statements) {
         tape(text);
         due("folio() of " + text, folk.folio(), statements);
@@ -86,6 +106,53 @@ final class Check {
         due("ask() of " + text, folk.ask(), MarginFolk.NOTHING);
         due("fault(0) of " + text, folk.fault(0), fault);
         due("fault(1) of " + text, folk.fault(1), place);
+    }
+
+    /** All that can be seen of the object but for refusals and the latest FAULT; looking changes nothing. */
+    private List<Long> sight() {
+        List<Long> all = new ArrayList<>();
+        for (int what = 0; what <= 10; what++) {
+            all.add((long) folk.has(what));
+        }
+        for (int k = 0; k < folk.has(4); k++) {
+            all.add((long) folk.letter(k, 0));
+            for (int what = 0; what <= 5; what++) {
+                all.add((long) folk.being(k, what));
+            }
+        }
+        for (int k = 0; k < folk.has(0) * folk.has(1); k++) {
+            all.add((long) folk.cell(k / folk.has(1), k % folk.has(1), 0));
+        }
+        for (int k = 0; k < 3 * folk.has(8); k++) {
+            all.add((long) folk.kept(k / 3, k % 3));
+        }
+        all.add((long) folk.lay(1));
+        all.add((long) folk.octet(0));
+        return all;
+    }
+
+    /** A call that is refused: the count of its kind alone grows, by one, and all else stays. */
+    void refused(String call, int kind, LongSupplier answer, long want) {
+        long[] counts = new long[6];
+        for (int k = 0; k < counts.length; k++) {
+            counts[k] = folk.status(k);
+        }
+        List<Long> before = sight();
+        due(call, answer.getAsLong(), want);
+        for (int k = 0; k < counts.length; k++) {
+            due("status(" + k + ") behind " + call, folk.status(k), counts[k] + (k == kind ? 1 : 0));
+        }
+        due("all stays behind " + call, sight().equals(before), true);
+    }
+
+    /** A FOLIO that is refused; the sign @ marks the place of its FAULT. */
+    void refusedFolio(int fault, String marked) {
+        String text = marked.replace("@", "");
+        tape(text);
+        refused("folio() of " + text, 1, folk::folio, MarginFolk.NONE);
+        due("fault(0) of " + text, folk.fault(0), fault);
+        due("fault(1) of " + text, folk.fault(1), marked.indexOf('@'));
+        due("the tape goes: feed", folk.feed(0, 0, 0, 0, 0), 20);
     }
 
     int[] image() {
