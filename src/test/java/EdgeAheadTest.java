@@ -31,6 +31,7 @@ public final class EdgeAheadTest {
         trimOneLeft();
         trimCantGo();
         trimLeaves();
+        dayOfEachTrial();
         Check.finish();
     }
 
@@ -496,5 +497,26 @@ public final class EdgeAheadTest {
         trims(run, Integer.MIN_VALUE, 1, -1);
         Check without = new Check("III TRIMMED without a folio");
         trims(without, 0, 1, -1);
+    }
+
+    /** A DAY that is tried is the DAY it is, whatever DAY was looked at ahead of it. */
+    private static void dayOfEachTrial() {
+        String text = "folio 2 cells 4;corn 0;steps day=1;being a on 0 at 0 trade 0;being b on 1 at 2 trade 0;opens 2*day;";
+        for (int n = 0; n < 4; n++) {
+            Check run = Check.of("III the DAY of a trial", text);
+            see(run, 0, 1);
+            run.due("opening(" + n + ")", run.folk.opening(n), 2 * n % 3);
+            laid(run, 0);
+            run.due("days(1)", run.folk.days(1), 0);
+            run.due("opening(" + n + ")", run.folk.opening(n), 2 * (n + 1) % 3);
+            laid(run, 7);
+        }
+        // a and b MEET at the OPENINGS 2, 3, 4; c steps on DAY 1 alone, and MEETS d from DAY 2 on at 0, 1, 4
+        Check run = Check.of("III the DAYS of a READING", "folio 4 cells 4;corn 0;steps day=1 and trade=1;opens 4;"
+                + "being a on 0 at 0 trade 0;being b on 1 at 3 trade 0;being c on 2 at 1 trade 1;being d on 3 at 1 trade 0;");
+        int[][] due = {{1, -1, 0}, {1, 0, 0}, {2, -1, 0}, {2, 1, 0}, {3, -1, 1}, {3, 0, 0}, {3, 1, 0}, {3, 2, 0}};
+        for (int[] row : due) {
+            run.due("reading(" + row[0] + ", " + row[1] + ")", run.folk.reading(row[0], row[1]), row[2]);
+        }
     }
 }

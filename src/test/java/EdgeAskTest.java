@@ -33,6 +33,8 @@ public final class EdgeAskTest {
         onLastByte();
         onForgets();
         onWithoutFolio();
+        onOfFewerLeaves();
+        longestAgain();
         Check.finish();
     }
 
@@ -528,5 +530,29 @@ public final class EdgeAskTest {
         run.tape(0, 0, 245);
         run.refused("on()", 5, () -> run.folk.on() ? 1 : 0, 0);
         run.due("the tape goes: feed", run.folk.feed(0, 0, 0, 0, 0), 20);
+    }
+
+    /** GLOSSES of LEAVES that another FOLIO had come back with no IMAGE of this one. */
+    private static void onOfFewerLeaves() {
+        Check run = Check.of("IV on() of fewer LEAVES", "folio 6 cells 8;");
+        run.tape(Check.sealed(0, 9, 255, 255, 255, 255, 255, 255));
+        run.due("on()", run.folk.on(), true);
+        run.due("has(2)", run.folk.has(2), 48);
+        run.folioGood("folio 1 cells 2;", 1);
+        run.due("has(2)", run.folk.has(2), 0);
+        run.tape(Check.sealed(0, 8, 1));
+        run.due("on()", run.folk.on(), true);
+        run.due("has(2)", run.folk.has(2), 1);
+        run.due("has(5)", run.folk.has(5), 8);
+    }
+
+    /** A QUESTION of 1600 bytes is read whole, however many were asked ahead of it. */
+    private static void longestAgain() {
+        Check run = Check.of("IV the longest QUESTION", CHAIN);
+        String text = "total 0" + "+1".repeat(796) + " ";
+        for (int k = 0; k < 5; k++) {
+            run.due("length", text.length(), 1600);
+            run.ask(text, 3 * 796);
+        }
     }
 }

@@ -31,6 +31,9 @@ public final class EdgeTextTest {
         openAgain();
         tooManyFirst();
         noStatement();
+        numbersLikeSigns();
+        longestAgain();
+        fullThenEmpty();
         Check.finish();
     }
 
@@ -484,5 +487,60 @@ public final class EdgeTextTest {
         fault(1, "\n\n   \n@");
         fault(1, " ".repeat(1600) + "@");
         fault(1, " @;");
+    }
+
+    /** A number that leans on a word is no sign, though its value be that of one. */
+    private static void numbersLikeSigns() {
+        fault(1, HEAD + "opens day@59");
+        fault(1, HEAD + "opens day@43 1;");
+        fault(1, HEAD + "opens (day@41;");
+        fault(1, HEAD + "steps day@60 1;");
+        fault(1, HEAD + "steps not@91 all];");
+    }
+
+    /** A text of 1600 bytes is read whole, however many were read ahead of it. */
+    private static void longestAgain() {
+        String head = "folio 6 cells 2;opens 0";
+        String text = head + "+1".repeat((1599 - head.length()) / 2) + " ".repeat((1599 - head.length()) % 2) + ";";
+        Check run = new Check("I the longest text");
+        for (int k = 0; k < 5; k++) {
+            run.due("length", text.length(), 1600);
+            run.folioGood(text, 2);
+            run.due("has(6)", run.folk.has(6), (1599 - head.length()) / 2 % 7);
+        }
+    }
+
+    /** Of a FOLIO that was full nothing is left behind the next ones. */
+    private static void fullThenEmpty() {
+        StringBuilder full = new StringBuilder("folio 6 cells 8;opens 6;corn 9;toll 9;steps all;thumb 100;");
+        for (int k = 0; k < 8; k++) {
+            full.append("being ").append((char) ('a' + k)).append(" on 0 at ").append(k).append(" trade 9;");
+        }
+        for (int k = 0; k < 20; k++) {
+            full.append("gloss ").append(3 + k / 8).append(' ').append(k % 8).append(';');
+        }
+        full.append("worm 0 1 0;".repeat(12));
+        Check run = new Check("I full, then empty");
+        for (int k = 0; k < 2; k++) {
+            run.folioGood(full.toString(), 46);
+            int[] most = {6, 8, 20, 12, 8, 0, 6, 40, 0, 0, 0};
+            for (int what = 0; what < most.length; what++) {
+                run.due("has(" + what + ") of the full one", run.folk.has(what), most[what]);
+            }
+            run.due("way(7, 1, 0)", run.folk.way(7, 1, 0), 1);
+            run.due("chance(1)", run.folk.chance(1), 1);
+        }
+        for (int k = 0; k < 2; k++) {
+            run.folioGood("folio 2 cells 2;being a on 0 at 0 trade 0;", 2);
+            int[] few = {2, 2, 0, 0, 1, 0, 0, 5, 0, 0, 0};
+            for (int what = 0; what < few.length; what++) {
+                run.due("has(" + what + ") of the small one", run.folk.has(what), few[what]);
+            }
+            run.due("way(0, 1, 0): no WORM", run.folk.way(0, 1, 0), -1);
+            run.due("chance(9): no thumb", run.folk.chance(9), 0);
+            run.due("being(0, 1): no steps", run.folk.being(0, 1), 0);
+            run.due("being(0, 3): no corn", run.folk.being(0, 3), 5);
+            run.due("being(0, 4)", run.folk.being(0, 4), 0);
+        }
     }
 }
