@@ -25,6 +25,7 @@ public final class EdgeDayTest {
         evicted();
         notEvicted();
         thumbEdge();
+        thumbWithout();
         thumbHalf();
         thumbOfWhom();
         thumbWithoutBeings();
@@ -381,6 +382,14 @@ public final class EdgeDayTest {
                 run.due("being(0, 3), thumb " + thumb, run.folk.being(0, 3), thumb == d ? 5 : 2);
             }
         }
+    }
+
+    /** I: "0 without": not even a DRAW of 0 is below it. */
+    private static void thumbWithout() {
+        Check run = Check.of("II no thumb", "folio 1 cells 2;being a on 0 at 0 trade 0;");
+        run.due("seed", run.folk.seed(seedThatDraws(0)), true);
+        run.due("chance(1)", run.folk.chance(1), 0);
+        run.due("being(0, 3)", run.folk.being(0, 3), 5);
     }
 
     /** "that one's purse becomes half (floor)". */

@@ -6,7 +6,9 @@ import java.nio.file.Files;
 import java.nio.file.Path;
 import java.util.Arrays;
 import java.util.HashSet;
+import java.util.Map;
 import java.util.Set;
+import java.util.TreeMap;
 import java.util.TreeSet;
 import java.util.regex.Matcher;
 import java.util.regex.Pattern;
@@ -112,6 +114,69 @@ public final class LanguageTest {
         }
         want(!Pattern.compile("\"\\s*\\+|\\+\\s*\"").matcher(code).find(), "10: texts joined by +");
         lengths(code);
+        depths(code);
+    }
+
+    /** Calls by name, whatever class has it: those that reach one another are recursion and count once. */
+    private static void depths(String code) {
+        Map<String, Set<String>> calls = calls(code);
+        boolean more = true;
+        Map<String, Set<String>> reached = new TreeMap<>();
+        calls.forEach((name, called) -> reached.put(name, new TreeSet<>(called)));
+        while (more) {
+            more = false;
+            for (Set<String> all : reached.values()) {
+                for (String name : new TreeSet<>(all)) {
+                    more |= all.addAll(reached.get(name));
+                }
+            }
+        }
+        for (String name : calls.keySet()) {
+            int deep = depth(name, calls, reached);
+            want(deep <= 8, "11: " + name + " goes " + deep + " calls deep");
+        }
+        want(reached.get("readPart").contains("readSum") && reached.get("readSum").contains("readPart"), "the calls are not seen");
+    }
+
+    private static Map<String, Set<String>> calls(String code) {
+        Map<String, Set<String>> calls = new TreeMap<>();
+        String head = "\n {4,8}(?:(?:public|private|static|final) )*(?:[\\w\\[\\]]+ )?(\\w+)\\([^)]*\\) \\{";
+        Matcher found = Pattern.compile(head).matcher(code);
+        while (found.find()) {
+            calls.putIfAbsent(found.group(1), new TreeSet<>());
+        }
+        found.reset();
+        int from = -1;
+        String name = "";
+        while (found.find()) {
+            add(calls, name, from < 0 ? "" : code.substring(from, found.start()));
+            name = found.group(1);
+            from = found.end();
+        }
+        add(calls, name, code.substring(from));
+        return calls;
+    }
+
+    private static void add(Map<String, Set<String>> calls, String name, String body) {
+        Matcher found = Pattern.compile("(\\w+)\\(").matcher(body);
+        while (found.find()) {
+            if (calls.containsKey(found.group(1))) {
+                calls.get(name).add(found.group(1));
+            }
+        }
+    }
+
+    private static int depth(String name, Map<String, Set<String>> calls, Map<String, Set<String>> reached) {
+        int most = 0;
+        for (String inner : calls.keySet()) {
+            boolean together = inner.equals(name) || reached.get(name).contains(inner) && reached.get(inner).contains(name);
+            for (String next : together ? calls.get(inner) : Set.<String>of()) {
+                if (!next.equals(name) && !reached.get(next).contains(name)) {
+                    most = Math.max(most, depth(next, calls, reached));
+                }
+            }
+        }
+        return most + 1;
     }
 
     /** Methods begin at four or eight blanks and end with a brace at the same place. */
